@@ -35,7 +35,7 @@ public final class NounFast {
     private static final int FAULT_NAME = 3;
     private static final int FAULT_MANY = 4;
 
-    // The kinds of tokens; a sign's kind is its own byte.
+    // The kinds of tokens; a sign's kind is its own byte. A BAD one is none, so it can come nowhere.
     private static final int END = 0;
     private static final int NAME = 1;
     private static final int PLAIN = 2;
@@ -44,6 +44,7 @@ public final class NounFast {
 
     private static final int WORD_LETTERS = 7;
     private static final int NUMBER_DIGITS = 3;
+    private static final int MOST_NUMBER = 999;
     private static final int LETTER_BITS = 5;
 
     // The words that are no names, eight signs each; a word's number is its place along the three rows.
@@ -97,7 +98,7 @@ public final class NounFast {
     private final Tape tape = new Tape();
     private final Text text = new Text(tape);
     private final Scene scene = new Scene(new City());
-    private final Scene trial = new Scene(new City());
+    private final Scene trial = new Scene(scene.city);
     private final History history = new History();
     private final Book reader = new Book();
     private final Rest calm = new Rest();
@@ -453,7 +454,8 @@ public final class NounFast {
     public int sentence() {
         Sentence fresh = new Sentence();
         text.open(MOST_SENTENCE_BYTES);
-        fresh.read(text, scene.city);
+        fresh.readCondition(text, scene.city, 1);
+        text.takeEnd();
         closeText();
         if (text.fault != 0) {
             return -1 - text.faultPlace;
@@ -625,16 +627,8 @@ public final class NounFast {
             this.tape = tape;
         }
 
+        /** Tells the tokens apart, up to the end or the first that is none, and looks at the first. */
         void open(int most) {
-            split(most);
-            fault = 0;
-            faultPlace = 0;
-            index = NONE;
-            step();
-        }
-
-        /** Tells the tokens apart, up to the end or the first that is none. */
-        private void split(int most) {
             int place = 0;
             boolean more = true;
             size = 0;
@@ -651,6 +645,10 @@ public final class NounFast {
                 more = kinds[size] != END && kinds[size] != BAD;
                 size++;
             }
+            fault = 0;
+            faultPlace = 0;
+            index = NONE;
+            step();
         }
 
         private int behindBlanks(int from) {
@@ -751,9 +749,6 @@ public final class NounFast {
             kind = kinds[index];
             start = starts[index];
             value = values[index];
-            if (kind == BAD) {
-                fail(FAULT_TOKEN);
-            }
         }
 
         void fail(int faultKind) {
@@ -771,6 +766,12 @@ public final class NounFast {
         /** The word here that is no name, NONE for all else. */
         int plainWord() {
             return kind == PLAIN ? (int) value : NONE;
+        }
+
+        void takeEnd() {
+            if (kind != END) {
+                fail(FAULT_TOKEN);
+            }
         }
 
         void takeSign(int sign) {
@@ -1689,14 +1690,7 @@ public final class NounFast {
         int size = 0;
         int ones = 0;
 
-        void read(Text text, City city) {
-            readCondition(text, city, 1);
-            if (text.kind != END) {
-                text.fail(FAULT_TOKEN);
-            }
-        }
-
-        private void readCondition(Text text, City city, int depth) {
+        void readCondition(Text text, City city, int depth) {
             readAll(text, city, depth);
             for (int i = 0; i < MOST_ONES && text.isWord(OR); i++) {
                 text.step();
@@ -1739,40 +1733,29 @@ public final class NounFast {
         }
 
         private void readPlain(Text text, City city, int word) {
-            switch (word) {
-                case HAS:
-                    readTold(text, city, word, MARK);
-                    break;
-                case AT:
-                    readTold(text, city, word, PLACE);
-                    break;
-                case WITH:
-                    readTold(text, city, word, PERSON);
-                    break;
-                case MARKS:
-                case NAMED:
-                case NUMBERED:
-                    readCompared(text, word);
-                    break;
-                default:
-                    add(word, 0, 0);
-                    break;
+            if (word == CARRIED || word == LONE) {
+                add(word, 0, 0);
+                return;
             }
-        }
-
-        private void readTold(Text text, City city, int word, int sort) {
-            add(word, city.toldHere(text, sort), 0);
-            text.step();
-        }
-
-        private void readCompared(Text text, int word) {
+            if (word == HAS || word == AT || word == WITH) {
+                add(word, city.toldHere(text, sortBehind(word)), 0);
+                text.step();
+                return;
+            }
             int sign = text.kind;
             if (sign != '<' && sign != '=' && sign != '>') {
                 text.fail(FAULT_TOKEN);
                 return;
             }
             text.step();
-            add(word, text.takeNumber(0, 999), sign);
+            add(word, text.takeNumber(0, MOST_NUMBER), sign);
+        }
+
+        private static int sortBehind(int word) {
+            if (word == HAS) {
+                return MARK;
+            }
+            return word == AT ? PLACE : PERSON;
         }
 
         private void add(int part, int object, int sign) {
