@@ -76,7 +76,8 @@ public final class ActsTest {
         x.put(0, 0);
         Check.due("who is foreign", 0, x.name(1, 2));
         Check.due("pays nothing", 26, x.person(1, 1));
-        NounFast y = Check.with("place p;thing t p;thing u p;person a p 4;person b p 3;person c p 0 foreign;fine 4;fast 0;");
+        NounFast y = Check.with("place p;thing t p;thing u p;person a p 4;person b p 3;person c p 0 foreign;"
+            + "fine 4;fast 0;");
         Check.due("less than the fine", 2, y.name(1, 0));
         Check.due("as much as the fine", 0, y.name(0, 0));
         Check.due("nothing is left", 0, y.person(0, 1));
@@ -209,9 +210,12 @@ public final class ActsTest {
         Check.due("a guess", 1, x.now(4));
         Check.due("ask undone", 0, x.undo());
         Check.due("no guess", 0, x.now(4));
+        x.days(1);
         x.point(0, 0);
-        Check.due("point undone", 0, x.undo());
+        Check.due("point undone", 1, x.undo());
         Check.due("nothing carried", 0, x.now(3));
+        Check.due("the day stays", 1, x.now(0));
+        Check.due("the day undone", 0, x.undo());
         x.drawn(30, 5);
         Check.due("drawn undone", 0, x.undo());
         Check.due("the day", 0, x.now(0));

@@ -11,6 +11,7 @@ public final class BookTest {
         otherLives();
         faults();
         manyLines();
+        manyMarks();
         tooLong();
         toldStays();
         Check.finish();
@@ -169,6 +170,16 @@ public final class BookTest {
         bad(forty + "t goes p;", 240, 3);
         bad(forty + "names", 240, 1);
         bad(forty + ";", 240, 1);
+    }
+
+    private static void manyMarks() {
+        NounFast x = Check.with("place p;thing t p;mark a;mark b;mark c;mark d;mark e;mark f;mark g;mark h;mark i;mark j;"
+            + "person y p 1;person z p 1;");
+        Check.due("all ten marks", NONE, Check.book(x, 0, "y asks z a b c d e f g h i j;"));
+        Check.due("one twice", -2 - 29, Check.book(x, 0, "y asks z a b c d e f g h i j a;"));
+        Check.due("its kind", 3, x.fault());
+        Check.due("a word", -2 - 29, Check.book(x, 0, "y asks z a b c d e f g h i j day;"));
+        Check.due("its kind", 1, x.fault());
     }
 
     private static void tooLong() {

@@ -34,6 +34,7 @@ public final class CityTextTest {
         good("fast 6;fine 20;mite 9;wage 0;", 4);
         good("mark abcdefg;", 1);
         good("mark the;mark one;", 2);
+        good("mark xlace;mark plac;mark placex;mark s;mark i;mark isx;mark xas;mark ay;mark ot;", 9);
     }
 
     private static void tokens() {

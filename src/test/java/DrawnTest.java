@@ -122,8 +122,10 @@ public final class DrawnTest {
         NounFast y = Check.with(CITY);
         for (int t = 0; t < 3; t++) {
             Check.due("odds of thirty", oddsByHand(t, 30, 5), y.odds(t, 30, 5));
+            Check.due("odds of one", oddsByHand(t, 1, 77), y.odds(t, 1, 77));
             Check.due("odds of seven", oddsByHand(t, 7, -3), y.odds(t, 7, -3));
-            Check.due("odds across the edge", oddsByHand(t, 4, Integer.MAX_VALUE - 1), y.odds(t, 4, Integer.MAX_VALUE - 1));
+            int edge = Integer.MAX_VALUE - 1;
+            Check.due("odds across the edge", oddsByHand(t, 4, edge), y.odds(t, 4, edge));
         }
         same("odds change nothing", Check.with(CITY), y);
         Check.due("nothing to undo", NONE, y.undo());

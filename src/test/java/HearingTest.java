@@ -80,6 +80,11 @@ public final class HearingTest {
         Check.due("u for a", NONE, x.cant(0, 1, 1, 0));
         Check.due("stays", 3, x.canting());
         Check.due("t for a, u for c", NONE, x.cant(0, 2, 0, 1));
+        // m, n and r would do and are less as bits, but o and r are fewer.
+        NounFast y = Check.with("place p;mark m;mark n;mark o;mark r;thing t p;thing u p;thing v p;is t m;is t n;is t o;"
+            + "is u m;is u r;is v n;person a p 1;person b p 1;knows a m;knows a n;knows a o;knows b r;");
+        Check.due("the fewest", 2, y.cant(0, 1, 0, 1));
+        Check.due("o and r", 12, y.canting());
     }
 
     private static void noCants() {

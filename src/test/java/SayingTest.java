@@ -68,6 +68,11 @@ public final class SayingTest {
         Check.due("the least as bits", 3, x.saying());
         Check.due("two marks", 2, x.say(0, 1));
         Check.due("of those that he knows", 6, x.saying());
+        // m and n are less as bits than o, but one mark is fewer.
+        NounFast y = Check.with("place p;mark m;mark n;mark o;thing t p;thing u p;thing v p;is t m;is t n;is t o;"
+            + "is u m;is v n;person a p 1;knows a m;knows a n;knows a o;");
+        Check.due("the fewest", 1, y.say(0, 0));
+        Check.due("by o", 4, y.saying());
     }
 
     private static void twins() {
@@ -141,5 +146,10 @@ public final class SayingTest {
             + "is t o;is u o;is u m;person a p 1;is s k;is t k;is u k;");
         Check.due("three", 3, z.cover(0));
         Check.due("m, n and o", 14, z.covering());
+        // k, l, m and n part all and are less as bits than k, l and o, but three marks are fewer.
+        NounFast w = Check.with("place p;mark k;mark l;mark m;mark n;mark o;thing s p;thing t p;thing u p;is s k;is s m;"
+            + "is t l;is t n;is u m;is u n;is u o;person a p 1;");
+        Check.due("the fewest", 3, w.cover(0));
+        Check.due("k, l and o", 19, w.covering());
     }
 }

@@ -54,6 +54,10 @@ public final class SceneTest {
         Check.due("what he carries", 3, x.person(0, 3));
         x.learn(0, 1);
         Check.due("what he knows", 7, x.person(0, 2));
+        NounFast y = Check.with("place p;person a p 1 foreign;person b p 2;person c p 3 foreign;");
+        Check.due("a is foreign", 1, y.person(0, 4));
+        Check.due("b is not", 0, y.person(1, 4));
+        Check.due("c is", 1, y.person(2, 4));
         Check.throwsNoSuch("person(-1, 0)", () -> x.person(-1, 0));
         Check.throwsNoSuch("person(3, 0)", () -> x.person(3, 0));
         Check.throwsNoSuch("person(0, 5)", () -> x.person(0, 5));

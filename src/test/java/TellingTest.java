@@ -43,6 +43,22 @@ public final class TellingTest {
             + "is s a;is s b;is t b;is t c;is s c;is u c;is u d;is t d;is s d;is v d;");
         Check.due("by and by", 5, z.rest(0));
         rested(z, 0, 1, 2, 3);
+        theLongestRest();
+    }
+
+    private static void theLongestRest() {
+        StringBuilder city = new StringBuilder("place p;");
+        for (int t = 0; t < 8; t++) {
+            city.append("mark ").append((char) ('a' + t)).append(";thing ").append((char) ('s' + t)).append(" p;");
+        }
+        for (int t = 0; t < 8; t++) {
+            for (int m = t; m < 8; m++) {
+                city.append("is ").append((char) ('s' + t)).append(' ').append((char) ('a' + m)).append(';');
+            }
+        }
+        NounFast x = Check.with(city.toString());
+        Check.due("eight things, one a round", 9, x.rest(0));
+        rested(x, 0, 1, 2, 3, 4, 5, 6, 7);
     }
 
     private static void restedStays() {
