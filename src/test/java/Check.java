@@ -97,6 +97,45 @@ final class Check {
         return answer;
     }
 
+    /** A text told with a '|' where its fault is: the text alone. */
+    static String unmarked(String marked) {
+        return marked.replace("|", "");
+    }
+
+    /** Where the '|' stands. */
+    static int place(String marked) {
+        return marked.indexOf('|');
+    }
+
+    /** As many of each sort as there may be: places pa.., marks ma.., things ta.., persons ha.., the i-th in place i % 4. */
+    static String fullCity() {
+        StringBuilder s = new StringBuilder();
+        for (int i = 0; i < 4; i++) {
+            s.append("place p").append(letter(i)).append(';');
+        }
+        for (int i = 0; i < 10; i++) {
+            s.append("mark m").append(letter(i)).append(';');
+        }
+        for (int i = 0; i < 8; i++) {
+            s.append("thing t").append(letter(i)).append(" p").append(letter(i % 4)).append(';');
+        }
+        for (int i = 0; i < 6; i++) {
+            s.append("person h").append(letter(i)).append(" p").append(letter(i % 4)).append(" 5;");
+        }
+        return s.toString();
+    }
+
+    static char letter(int i) {
+        return (char) ('a' + i);
+    }
+
+    /** Lets days go by till it is that day. */
+    static void passTo(NounFast x, int day) {
+        while (x.now(0) < day) {
+            x.days(Math.min(60, day - x.now(0)));
+        }
+    }
+
     /** The latest phrase, byte by byte. */
     static String phrase(NounFast x) {
         StringBuilder s = new StringBuilder();
