@@ -35,6 +35,11 @@ public final class EdgesOfActsTest {
         for (int what = 0; what < 4; what++) {
             Check.due("count(" + what + ") of a new one", 0, x.count(what));
         }
+        int[] now = {0, 0, 0, 0, 0, 0, 5};
+        for (int what = 0; what < 7; what++) {
+            Check.due("now(" + what + ") of a new one", now[what], x.now(what));
+        }
+        Check.due("no fault", 0, x.fault());
         Check.due("its tape", 0, x.count(8));
         Check.due("no byte to end at", false, x.end(1));
         Check.due("an empty text is a city", 0, x.city());

@@ -348,6 +348,9 @@ public final class EdgesOfMindsTest {
         Check.due("nothing parts them: the first", 0, x.show());
         Check.due("no saying", 0, Check.spoken(x, 0, 0, 0));
         Check.due("by the latest above 0", 0, x.show());
+        NounFast first = room(3, new int[] {3, 1, 7}, 7);
+        Check.due("eight", 8, Check.spoken(first, 0, 2, 1));
+        Check.due("the first one parts them best", 0, first.show());
         // Half and half is best; two of these are alike.
         NounFast y = room(3, new int[] {0, 4, 3, 5, 6}, 7);
         Check.due("none alone", 1, Check.spoken(y, 0, 0, 1));
@@ -403,6 +406,7 @@ public final class EdgesOfMindsTest {
         Check.due("one is carried", NONE, x.cant(1, 0, 1, 2));
         Check.due("one thing", NONE, x.cant(0, 1, 0, 0));
         Check.due("one person", NONE, x.cant(0, 0, 0, 1));
+        Check.due("one thing, though one mark means it to both", NONE, room(1, new int[] {1, 0}, 1, 1).cant(0, 1, 0, 0));
         for (int p : new int[] {MIN, -1, 2, MAX}) {
             Check.due("no such person", NONE, x.cant(p, 1, 0, 1));
             Check.due("no such person", NONE, x.cant(0, p, 0, 1));
@@ -576,6 +580,8 @@ public final class EdgesOfMindsTest {
         nDaysDrawn();
         drawsThatWrapAround();
         noThingsNoDraw();
+        puttingDownTheFirst();
+        learningIfHeCan();
     }
 
     // 35: "n (1 to 60) DAYS DRAWN by a seed: how many went by; NONE: not as told, no PERSONS."
@@ -611,23 +617,66 @@ public final class EdgesOfMindsTest {
             Check.due("seed " + seed + " goes to", turn == 0 ? draw : 0, y.person(0, 0));
             Check.due("seed " + seed + " takes", turn == 1 || turn == 2 ? 1 << draw : 0, y.person(0, 3));
             Check.due("seed " + seed + " names", turn == 1 ? 1 : 0, y.thing(0, 3) + y.thing(1, 3));
+            // Of one thing there is a draw, too: it is 0.
+            NounFast z = Check.with("place p;thing t p;person a p 9;fast 6;");
+            Check.due("a day", 1, z.drawn(1, seed));
+            Check.due("seed " + seed + " takes the one", turn == 1 || turn == 2 ? 1 : 0, z.person(0, 3));
         }
     }
 
-    // "a draw of all THINGS (none: no draw)"
+    private static int behind(int x) {
+        return x * 1103515245 + 12345;
+    }
+
+    private static int draw(int x, int n) {
+        return (x >>> 8) % n;
+    }
+
+    // "1, 2: a draw of all THINGS (none: no draw)"
     private static void noThingsNoDraw() {
-        String persons = "person a p 9;person b p 9;";
-        for (int seed = 0; seed < 40; seed++) {
-            int x = seed * 1103515245 + 12345;
-            int first = (x >>> 8) % 6;
-            if (first == 1 || first == 2) {
+        for (int seed = 0; seed < 300; seed++) {
+            int first = behind(seed);
+            if (draw(first, 6) == 1 || draw(first, 6) == 2) {
                 // With no thing the second person's turn is drawn at once.
-                int second = x * 1103515245 + 12345;
-                int place = second * 1103515245 + 12345;
-                boolean goes = (second >>> 8) % 6 == 0;
-                NounFast y = Check.with("place p;place q;place r;" + persons);
+                int second = behind(first);
+                boolean goes = draw(second, 6) == 0;
+                NounFast y = Check.with("place p;place q;place r;person a p 9;person b p 9;");
                 Check.due("a day", 1, y.drawn(1, seed));
-                Check.due("seed " + seed, goes ? (place >>> 8) % 3 : 0, y.person(1, 0));
+                Check.due("no thing, seed " + seed, goes ? draw(behind(second), 3) : 0, y.person(1, 0));
+            }
+        }
+    }
+
+    // "3: he puts down the first that he carries"
+    private static void puttingDownTheFirst() {
+        for (int seed = 0; seed < 60; seed++) {
+            boolean puts = draw(behind(seed), 6) == 3;
+            NounFast y = Check.with("place p;thing t p;thing u p;thing v p;person a p 9;");
+            Check.due("he carries v", 0, y.point(0, 2));
+            Check.due("he carries t", 0, y.point(0, 0));
+            Check.due("a day", 1, y.drawn(1, seed));
+            if (puts) {
+                Check.due("the first, seed " + seed, 4, y.person(0, 3));
+                NounFast z = Check.with("place p;thing t p;person a p 9;");
+                Check.due("a day", 1, z.drawn(1, seed));
+                Check.due("he carries none, seed " + seed, 1, z.lies(0));
+            } else {
+                Check.due("he keeps both, seed " + seed, 5, y.person(0, 3) & 5);
+            }
+        }
+    }
+
+    // "4: a draw of all PERSONS: he learns from that one (each, if he can)"
+    private static void learningIfHeCan() {
+        for (int seed = 0; seed < 120; seed++) {
+            int first = behind(seed);
+            if (draw(first, 6) == 4) {
+                int from = draw(behind(first), 3);
+                NounFast y = Check.with("place p;place q;mark m;mark n;mark o;person a p 9;person b p 9;person c q 9;"
+                    + "knows a m;knows b o;knows c n;");
+                Check.due("a day", 1, y.drawn(1, seed));
+                // From himself, or from one elsewhere, he can't.
+                Check.due("learns, seed " + seed, from == 1 ? 5 : 1, y.person(0, 2));
             }
         }
     }
@@ -667,14 +716,17 @@ public final class EdgesOfMindsTest {
         for (int day : new int[] {0, 380, 381, 399}) {
             NounFast x = Check.with(city);
             Check.passTo(x, day);
-            int odds = x.odds(3, 4, 77);
-            int carried = 0;
-            for (int i = 0; i < 4; i++) {
+            int[] carried = new int[8];
+            for (int i = 0; i < 30; i++) {
                 Check.due("twenty, or those that are left", Math.min(20, 400 - day), x.drawn(20, 77 + i));
-                carried += x.thing(3, 1) == NONE ? 0 : 1;
+                for (int t = 0; t < 8; t++) {
+                    carried[t] += x.thing(t, 1) == NONE ? 0 : 1;
+                }
                 x.undo();
             }
-            Check.due("odds on day " + day, carried, odds);
+            for (int t = 0; t < 8; t++) {
+                Check.due("odds of " + t + " on day " + day, carried[t], x.odds(t, 30, 77));
+            }
         }
         NounFast y = Check.with(city);
         Check.passTo(y, 400);

@@ -211,6 +211,7 @@ public final class EdgesOfTellingTest {
     private static void sentences() {
         howManyOnes();
         whatEachOneSays();
+        joinedOnes();
         lone();
         numbersOfAThing();
         theKth();
@@ -248,6 +249,27 @@ public final class EdgesOfTellingTest {
         said(x, "with a or with b or with c", 1);
     }
 
+    // "COND: ALL { 'or' ALL }. ALL: ONE { 'and' ONE }. ONE: 'not' ONE | ( COND )", up to the last of twenty ones
+    private static void joinedOnes() {
+        NounFast x = Check.with(Check.fullCity());
+        said(x, "number<3 and number>0", 6);
+        said(x, "number<1 or number>6", 129);
+        said(x, "number=7 or number<3 and number>0", 134);
+        said(x, "number<3 and number>0 or number=7", 134);
+        said(x, "(number=7 or number<3) and number>0", 134);
+        said(x, "(number=7 or number<3) and not number>0", 1);
+        said(x, "not number=7 and number>4", 96);
+        said(x, "not (number=7 and number>4)", 127);
+        said(x, "carried" + " or carried".repeat(16) + " or number=6", 64);
+        NounFast y = Check.with(Check.fullCity());
+        said(y, "at pa" + " and at pa".repeat(18) + " and number=4", 16);
+        said(y, "at pa" + " and at pa".repeat(18) + " and number=5", 0);
+        said(y, "at pa" + " or at pa".repeat(18) + " or number=5", 49);
+        said(y, "not ".repeat(7) + "at pa", 238);
+        said(y, "(".repeat(7) + "number=1 or number=2" + ")".repeat(7), 6);
+        said(y, "number=0 and(number=1 and(number=2 and(number=3 or number=4)or number=5)or number=0)or number=6", 65);
+    }
+
     private static void said(NounFast x, String sentence, int things) {
         Check.due("fault of " + sentence, 1, Check.sentence(x, sentence) > 0 ? 1 : 0);
         int bits = 0;
@@ -270,6 +292,7 @@ public final class EdgesOfTellingTest {
         Check.due("a puts it down", 0, x.put(0, 1));
         // v has no marks, so each other thing there has all of them.
         said(x, "lone", 3);
+        said(Check.with("place p;mark m;thing t p;thing u p;is t m;"), "lone", 1);
         NounFast y = Check.with("place p;mark m;thing t p;thing u p;is t m;is u m;person a p 1;");
         said(y, "lone", 0);
         Check.due("one is carried", 0, y.name(0, 1));

@@ -489,10 +489,44 @@ public final class EdgesOfTextsTest {
     }
 
     private static void faults() {
+        theKindOfTheLatest();
         theFirstAlongTheText();
         theEnd();
         whatCannotCome();
         namesNotToldOrOfAnotherSort();
+    }
+
+    // 5: "The kind of the FAULT of the latest city(), book() or sentence() ..; 0 without one and ahead of any."
+    private static void theKindOfTheLatest() {
+        NounFast x = new NounFast();
+        Check.due("ahead of any", 0, x.fault());
+        Check.due("another lives", -1000, x.book(2));
+        Check.due("ahead of any", 0, x.fault());
+        Check.due("a city of kind 4", -1 - 32, Check.city(x, "place a;place b;place c;place d;place e;"));
+        Check.due("a city's kind", 4, x.fault());
+        Check.due("another lives", -1000, x.book(2));
+        Check.due("leaves it", 4, x.fault());
+        Check.due("spoken is no text of a fault", Check.NONE, Check.spoken(x, 0));
+        Check.due("leaves it", 4, x.fault());
+        Check.due("a sentence of kind 1", -1, Check.sentence(x, ""));
+        Check.due("a sentence's kind", 1, x.fault());
+        Check.due("a book of kind 2", -2 - 4, Check.book(x, 0, "day 0;"));
+        Check.due("a book's kind", 2, x.fault());
+        Check.due("a book of kind 3", -2, Check.book(x, 1, "x"));
+        Check.due("a book's kind", 3, x.fault());
+        Check.due("a book without one", Check.NONE, Check.book(x, 0, ""));
+        Check.due("without one", 0, x.fault());
+        Check.due("a city of kind 2", -1 - 5, Check.city(x, "fast 7;"));
+        Check.due("a city's kind", 2, x.fault());
+        Check.due("a sentence without one", 1, Check.sentence(x, "lone"));
+        Check.due("without one", 0, x.fault());
+        Check.due("a sentence of kind 3", -1 - 4, Check.sentence(x, "has m"));
+        Check.due("a sentence's kind", 3, x.fault());
+        Check.due("a city without one", 0, Check.city(x, ""));
+        Check.due("without one", 0, x.fault());
+        Check.due("a city of kind 3", -1 - 8, Check.city(x, "thing t p;"));
+        Check.due("a book that is wrong", 6, Check.book(x, 0, "day 60;".repeat(7)));
+        Check.due("has no fault", 0, x.fault());
     }
 
     // "FAULTS, the first along the text"
@@ -564,6 +598,7 @@ public final class EdgesOfTextsTest {
         badBook("|;", 1);
         badBook("|3;", 1);
         badBook("|fine 3;", 1);
+        badBook("a|;", 1);
         badBook("a |b;", 1);
         badBook("a |day 1;", 1);
         badBook("a |has m;", 1);

@@ -29,6 +29,7 @@ public final class RefusedCallsTest {
         notAsTold();
         onTheLastDay();
         nothingToUndo();
+        eightAreKept();
         noPersons();
         Check.finish();
     }
@@ -347,6 +348,25 @@ public final class RefusedCallsTest {
             Check.due("undo", i, twin.undo());
         }
         Check.same("all undone, and once more", all(twin), all(y));
+    }
+
+    private static void eightAreKept() {
+        NounFast x = setUp(TAPE);
+        NounFast twin = setUp(TAPE);
+        for (int i = 0; i < 6; i++) {
+            Check.due("a day", 1, x.days(1));
+            Check.due("a day", 1, twin.days(1));
+        }
+        Check.due("go", 1, x.go(0, 0));
+        Check.due("ask", 1, x.ask(0, 0, 1));
+        Check.due("name", 1, x.name(0, 1));
+        Check.due("point", 1, x.point(0, 1));
+        Check.due("put", 1, x.put(0, 0));
+        Check.due("learn", 2, x.learn(0, 1));
+        Check.due("days", NONE, x.days(0));
+        Check.due("drawn", NONE, x.drawn(0, 1));
+        // The oldest of the eight is still there.
+        Check.same("eight are kept", all(twin), all(x));
     }
 
     private static void noPersons() {
