@@ -26,28 +26,33 @@ public final class DrawnTest {
         return (x >>> 8) % n;
     }
 
+    // An object answers 512 calls, so none is wasted here: sixty days of four persons need some 350.
     private static void live(NounFast y, int n, int seed) {
+        int[] counts = {y.count(0), y.count(1), y.count(2), y.count(3)};
         x = seed;
-        for (int day = 0; day < n && y.now(0) < 400; day++) {
-            for (int p = 0; p < y.count(3); p++) {
-                turn(y, p);
+        for (int day = 0; day < n; day++) {
+            for (int p = 0; p < counts[3]; p++) {
+                turn(y, counts, p);
             }
             y.days(1);
         }
     }
 
-    private static void turn(NounFast y, int p) {
+    private static void turn(NounFast y, int[] counts, int p) {
         int what = draw(6);
         if (what == 0) {
-            y.go(p, draw(y.count(0)));
-        } else if (what == 1 && y.count(2) > 0) {
-            y.name(p, draw(y.count(2)));
-        } else if (what == 2 && y.count(2) > 0) {
-            y.point(p, draw(y.count(2)));
-        } else if (what == 3 && y.person(p, 3) != 0) {
-            y.put(p, Integer.numberOfTrailingZeros(y.person(p, 3)));
+            y.go(p, draw(counts[0]));
+        } else if (what == 1 && counts[2] > 0) {
+            y.name(p, draw(counts[2]));
+        } else if (what == 2 && counts[2] > 0) {
+            y.point(p, draw(counts[2]));
+        } else if (what == 3) {
+            int carried = y.person(p, 3);
+            if (carried != 0) {
+                y.put(p, Integer.numberOfTrailingZeros(carried));
+            }
         } else if (what == 4) {
-            y.learn(p, draw(y.count(3)));
+            y.learn(p, draw(counts[3]));
         }
     }
 

@@ -25,10 +25,11 @@ public final class StrangeCallsTest {
         }
         face.sort(Comparator.comparing(Method::getName));
         Check.due("methods of the face", 42, face.size());
+        // With the calls that feed it, an object has less than 512 of them.
         Random random = new Random(1);
-        for (int run = 0; run < 300; run++) {
+        for (int run = 0; run < 800; run++) {
             NounFast x = run % 3 == 0 ? new NounFast() : Check.with(CITY);
-            for (int call = 0; call < 500; call++) {
+            for (int call = 0; call < 180; call++) {
                 if (random.nextInt(8) == 0) {
                     feedPieces(x, random);
                 }
