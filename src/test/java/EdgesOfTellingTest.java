@@ -466,6 +466,10 @@ public final class EdgesOfTellingTest {
         Check.due("restore", true, x.restore(0));
         Check.due("told", 2, x.told(2));
         Check.due("the image is as it was", 0, x.now(0));
+        Check.due("an act behind it", 0, x.go(0, 1));
+        Check.due("can be undone", 0, x.undo());
+        Check.due("he is where he was", 0, x.person(0, 0));
+        Check.due("no more", NONE, x.undo());
     }
 
     private static void whatIsKept() {
@@ -537,6 +541,9 @@ public final class EdgesOfTellingTest {
         Check.due("never named", 0, x.thing(1, 3));
         Check.due("no sentence", NONE, x.said(NONE));
         Check.due("nothing can be undone", NONE, x.undo());
+        Check.due("an act in it", 0, x.go(0, 1));
+        Check.due("can be undone", 0, x.undo());
+        Check.due("he is where he was", 0, x.person(0, 0));
         allIsTold(x);
     }
 
